@@ -157,20 +157,22 @@ public final class TableChoices {
     }
 
     public int mark() {
-        if (markCount >= MOST_MARKS) {
+        Choices room = markAt(markCount);
+        if (room == null) {
             return FULL;
         }
-        marked[markCount].copy(now);
+        room.copy(now);
         markCount++;
         return markCount;
     }
 
     public int back() {
-        if (markCount <= 0) {
+        Choices newest = markAt(markCount - 1);
+        if (newest == null) {
             return NONE;
         }
+        now.copy(newest);
         markCount--;
-        now.copy(marked[markCount]);
         return markCount;
     }
 
@@ -269,6 +271,10 @@ public final class TableChoices {
         return isIn(number, 0, constraintCount - 1) && number < MOST_CONSTRAINTS ? constraints[number] : null;
     }
 
+    private Choices markAt(int number) {
+        return isIn(number, 0, MOST_MARKS - 1) ? marked[number] : null;
+    }
+
     /** 0 where a constraint may come; BAD goes ahead of FULL. */
     private int refusalOfNew(boolean good) {
         if (!good) {
@@ -320,7 +326,7 @@ public final class TableChoices {
         return all;
     }
 
-    /** The first solution that goes on from a head; if it is the floor's own head (tight), only one behind the floor. */
+    /** The first solution that goes on from a head; where that is the floor's own (tight), only one behind the floor. */
     private int solutionFrom(int name, int head, int floor, boolean tight) {
         if (!isName(name)) {
             return tight ? NONE : head;
@@ -719,8 +725,20 @@ public final class TableChoices {
             return wordsFrom(0, places);
         }
 
+        /** Fills the costs behind on the way: the counts ahead look at them. */
         int leastCost(Places places) {
-            fillBehind(places);
+            int last = Math.min(many, MOST_NAMES);
+            for (int state = 0; state < STATES; state++) {
+                places.behind[Places.costAt(last, state)] = has(ends, state) ? 0 : FAR;
+            }
+            for (int place = last - 1; place >= 0; place--) {
+                makeFar(places.behind, place);
+                for (int value = 0; value < MOST_VALUES; value++) {
+                    if (has(places.open[place], value)) {
+                        goBehind(place, value, places);
+                    }
+                }
+            }
             return places.behind[0] <= most ? places.behind[0] : NONE;
         }
 
@@ -762,21 +780,6 @@ public final class TableChoices {
             return whole;
         }
 
-        private void fillBehind(Places places) {
-            int last = Math.min(many, MOST_NAMES);
-            for (int state = 0; state < STATES; state++) {
-                places.behind[Places.costAt(last, state)] = has(ends, state) ? 0 : FAR;
-            }
-            for (int place = last - 1; place >= 0; place--) {
-                makeFar(places.behind, place);
-                for (int value = 0; value < MOST_VALUES; value++) {
-                    if (has(places.open[place], value)) {
-                        goBehind(place, value, places);
-                    }
-                }
-            }
-        }
-
         private void goBehind(int place, int value, Places places) {
             if (!isIn(place, 0, MOST_NAMES - 1) || !isValue(value)) {
                 return;
@@ -814,7 +817,8 @@ public final class TableChoices {
         abstract boolean isGoodAtEnd(int state);
 
         final boolean keeps(Places places) {
-            return openWords(places) > 0;
+            places.forget();
+            return wordsFrom(0, 0, places) > 0;
         }
 
         final int openWords(Places places) {

@@ -172,6 +172,24 @@ public final class PromiseTest {
     x.cut(1, 55);
     // the row is 2 0 1, so 3 is gone from the last place
     due(5, "told(0, 4) without 3", x.told(0, 4), 6);
+    runOfTable();
+  }
+
+  private static void runOfTable() {
+    TableChoices x = names(4, 4, 4);
+    x.table(3, w(1, 2, 0));
+    x.tuple(0, w(0, 7, 3));
+    x.tuple(0, w(2, 1, 2));
+    x.tuple(0, w(3, 3, 5));
+    due(15, "run() of a table", x.run(), 4);
+    due(15, "domain(1), the first place", x.domain(1), 5);
+    due(15, "domain(2), the starred place", x.domain(2), 15);
+    due(15, "domain(0), the last place", x.domain(0), 12);
+    x.cut(0, 4);
+    due(15, "run() behind a cut", x.run(), 4);
+    due(15, "domain(2)", x.domain(2), 2);
+    due(23, "count() of a table", x.count(), 1);
+    due(24, "next(NONE)", x.next(NONE), w(2, 2, 1));
   }
 
   private static void machine() {
@@ -242,6 +260,15 @@ public final class PromiseTest {
     due(7, "run()", x.run(), 1);
     due(7, "domain(0), the last place", x.domain(0), 1);
     due(7, "domain(2), the first place", x.domain(2), 3);
+    TableChoices y = names(6, 6, 6, 6, 6, 6);
+    y.machine(6, w(5, 4, 3, 2, 1, 0), 32, 600);
+    due(7, "told(0, 4) without steps", y.told(0, 4), 0);
+    for (int i = 0; i < 5; i++) y.step(0, i, i, i + 1, 100);
+    y.step(0, 5, 5, 5, 100);
+    due(7, "told(0, 4), six steps at the most cost", y.told(0, 4), 1);
+    due(22, "least(0)", y.least(0), 600);
+    due(7, "run() of six places", y.run(), 30);
+    due(24, "next(NONE)", y.next(NONE), w(5, 4, 3, 2, 1, 0));
   }
 
   private static void element() {
