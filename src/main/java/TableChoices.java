@@ -725,7 +725,7 @@ public final class TableChoices {
             return wordsFrom(0, places);
         }
 
-        /** Fills the costs behind on the way: the counts ahead look at them. */
+        /** Leaves the costs behind filled: going ahead adds them to its own. */
         int leastCost(Places places) {
             int last = Math.min(many, MOST_NAMES);
             for (int state = 0; state < STATES; state++) {
