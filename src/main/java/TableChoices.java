@@ -547,7 +547,7 @@ public final class TableChoices {
         Constraint(int kind, int many, int row) {
             int set = 0;
             int highest = 0;
-            for (int place = 0; place < many; place++) {
+            for (int place = 0; place < many && place < MOST_NAMES; place++) {
                 set |= 1 << digit(row, place);
                 if (digit(row, place) > digit(row, highest)) {
                     highest = place;
