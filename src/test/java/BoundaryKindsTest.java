@@ -86,6 +86,11 @@ public final class BoundaryKindsTest extends Checks {
     for (int from = 0; from < 6; from++) {
       TableChoices x = names(6);
       x.machine(1, 0, 63, 1000);
+      TableChoices asked = names(6);
+      asked.machine(1, 0, 63, 1000);
+      asked.step(0, from, 3, 5, 100);
+      asked.step(0, 0, 2, 5, 100);
+      due(s, "told(0, 4), nothing else was asked before", asked.told(0, 4), from == 0 ? 2 : 1);
       due(s, "allows(0, 3) without steps, though 0 is an end", x.allows(0, 3), 0);
       due(s, "least(0)", x.least(0), NONE);
       x.step(0, from, 3, 5, 100);

@@ -136,7 +136,7 @@ abstract class Checks {
       int many = told(x.told(c, 1));
       for (int what = 2; what < 5; what++) told(x.told(c, what));
       told(x.least(c));
-      for (int i = 0; i < 20; i++) told(x.allows(c, someWord(many, i)));
+      for (int i = 0; i < 20; i++) told(x.allows(c, someWord(Math.min(many, 6), i)));
     }
 
     /** For few places all words with small values, for more of them some that are spread over all. */
