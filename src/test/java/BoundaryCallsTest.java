@@ -91,9 +91,9 @@ public final class BoundaryCallsTest extends Checks {
       same(s, "what there is after clear()", look(x), look(new TableChoices()));
       TableChoices again = state.make();
       again.clear();
-      TableChoices at = new TableChoices();
-      for (int values = 1; values <= 6; values++) due(s, "name(" + values + ")", again.name(values), at.name(values));
-      same(s, "what there is with new names after clear()", look(again), look(at));
+      TableChoices fresh = new TableChoices();
+      for (int values = 1; values <= 6; values++) due(s, "name(" + values + ")", again.name(values), fresh.name(values));
+      same(s, "what there is with new names after clear()", look(again), look(fresh));
     }
     TableChoices x = States.fullConstraints();
     due(s, "clear() of ten", x.clear(), 10);
