@@ -34,18 +34,25 @@ public final class FaceTest {
     for (Class<?> inside : face.getDeclaredClasses()) {
       check(Modifier.isStatic(inside.getModifiers()), inside + " is not static");
       check(!Modifier.isPublic(inside.getModifiers()) && !Modifier.isProtected(inside.getModifiers()), inside + " can be seen");
+      for (Method m : inside.getDeclaredMethods()) {
+        check(!Modifier.isPrivate(m.getModifiers()) || !publicNames().contains(m.getName()), "private method with a public name: " + m);
+      }
     }
     System.out.println(wrong == 0 ? "the face is as due" : wrong + " faults of the face");
     if (wrong != 0) System.exit(1);
   }
 
+  private static TreeSet<String> publicNames() {
+    TreeSet<String> names = new TreeSet<>();
+    for (String m : METHODS) names.add(m.substring(0, m.indexOf('(')));
+    return names;
+  }
+
   private static void methods(Class<?> face) {
     TreeSet<String> seen = new TreeSet<>();
-    TreeSet<String> publicNames = new TreeSet<>();
-    for (String m : METHODS) publicNames.add(m.substring(0, m.indexOf('(')));
     for (Method m : face.getDeclaredMethods()) {
       if (Modifier.isPrivate(m.getModifiers())) {
-        check(!publicNames.contains(m.getName()), "private method with a public name: " + m);
+        check(!publicNames().contains(m.getName()), "private method with a public name: " + m);
         continue;
       }
       check(Modifier.isPublic(m.getModifiers()) && !Modifier.isStatic(m.getModifiers()), "not public: " + m);

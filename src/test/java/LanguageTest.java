@@ -1,7 +1,12 @@
 import java.io.IOException;
 import java.nio.file.Files;
 import java.nio.file.Path;
+import java.util.ArrayList;
 import java.util.List;
+import java.util.Map;
+import java.util.Set;
+import java.util.TreeMap;
+import java.util.TreeSet;
 import java.util.regex.Matcher;
 import java.util.regex.Pattern;
 
@@ -18,6 +23,9 @@ public final class LanguageTest {
     {"9", "while\\s*\\(\\s*true\\s*\\)|for\\s*\\(\\s*;"},
     {"13", "\\b(?:Random|Thread|nanoTime|currentTimeMillis|getenv|identityHashCode)\\b"},
   };
+  private static final Pattern HEAD = Pattern.compile("^( {4}| {8})(?:[a-z\\[\\]A-Z]+ )*(\\w+)\\(([^)]*)\\) \\{$");
+  /** By a method's name: the names of all that its body calls; methods of one name are taken for one. */
+  private static final Map<String, Set<String>> CALLS = new TreeMap<>();
   private static int wrong = 0;
 
   private static void fault(String rule, String text) {
@@ -47,14 +55,33 @@ public final class LanguageTest {
   }
 
   private static void methods(List<String> lines) {
-    Pattern head = Pattern.compile("^( {4}| {8})(?:[a-z\\[\\]A-Z]+ )*\\w+\\(([^)]*)\\) \\{$");
     for (int i = 0; i < lines.size(); i++) {
-      Matcher m = head.matcher(lines.get(i));
+      Matcher m = HEAD.matcher(lines.get(i));
       if (!m.find()) continue;
-      if (m.group(2).split(",").length > 7) fault("11", "parameters in line " + (i + 1));
+      if (m.group(3).split(",").length > 7) fault("11", "parameters in line " + (i + 1));
       int end = i;
       while (end < lines.size() && !lines.get(end).equals(m.group(1) + "}")) end++;
       if (end - i > 60) fault("11", (end - i) + " lines of a method from line " + (i + 1));
+      Set<String> called = CALLS.computeIfAbsent(m.group(2), name -> new TreeSet<>());
+      Matcher call = Pattern.compile("(\\w+)\\(").matcher(String.join("\n", lines.subList(i + 1, end)));
+      while (call.find()) called.add(call.group(1));
     }
+    for (String name : CALLS.keySet()) {
+      List<String> chain = longest(name, List.of());
+      if (chain.size() > 8) fault("11", "calls " + chain.size() + " deep: " + chain);
+    }
+  }
+
+  /** The longest chain of calls that goes on from one, with none twice, so that a recursion is gone into once. */
+  private static List<String> longest(String name, List<String> before) {
+    List<String> chain = new ArrayList<>(before);
+    chain.add(name);
+    List<String> best = chain;
+    for (String called : CALLS.get(name)) {
+      if (!CALLS.containsKey(called) || chain.contains(called)) continue;
+      List<String> longer = longest(called, chain);
+      if (longer.size() > best.size()) best = longer;
+    }
+    return best;
   }
 }
